@@ -34,6 +34,9 @@ public final class CallCourt {
         0x6E656172L, 0x6F776EL, 0x737461746963L, 0x6162737472616374L, 0x6C656E74L, 0x696E74L, 0x6E6F6E65L
     };
 
+    /** Where a text stands between two of its pieces. */
+    private static final int BETWEEN_ITEMS = 0, BEHIND_NAME = 1, AT_REF = 2, INSIDE = 3;
+
     private static final int PLAIN_CLASS = 0, ABSTRACT_CLASS = 1, A_FACE = 2;
     private static final int ACCESS_OWN = 0, ACCESS_NONE = 1, ACCESS_NEAR = 2, ACCESS_OPEN = 3;
     private static final int FORM_BODY = 0, FORM_STATIC = 1, FORM_ABSTRACT = 2, FORM_LENT = 3;
@@ -631,13 +634,15 @@ public final class CallCourt {
         private final Closer closer;
         private final long[] packNames = new long[PACKS_MOST];
         private Family family;
+        /** The token that is read now. */
         private int at;
+        private int sort;
+        private long value;
         private int fault;
         private int place;
         private int pack;
         private int loader;
-        /** Whether the token stands between a type's { and its }. */
-        private boolean inside;
+        private int stage;
         /** The type, the REF and the member that are being read. */
         private Type type;
         private int ref;
@@ -651,29 +656,46 @@ public final class CallCourt {
             row = first.members[0];
         }
 
+        /** A text is read in pieces, one behind the other, so that calls stay shallow. */
         boolean read(Family into) {
             family = into;
             family.clear();
+            start();
+            boolean right = true;
+            for (int i = 0; i <= TAPE_MOST && right; i++) {
+                if (stage == BETWEEN_ITEMS && sort == END) {
+                    return true;
+                }
+                switch (stage) {
+                    case BEHIND_NAME:
+                        right = readHead();
+                        break;
+                    case AT_REF:
+                        right = readRef() && readArguments();
+                        break;
+                    case INSIDE:
+                        right = sort == '}' ? closeType() : readMember();
+                        break;
+                    default:
+                        right = readItem();
+                }
+            }
+            return false;
+        }
+
+        private void start() {
             at = 0;
+            sort = tokens.sorts[0];
+            value = tokens.values[0];
             fault = 0;
             place = 0;
             pack = 0;
             loader = 0;
-            inside = false;
-            for (int i = 0; i <= TAPE_MOST; i++) {
-                if (!inside && sort() == END) {
-                    return true;
-                }
-                boolean right = inside ? readInside() : readItem();
-                if (!right) {
-                    return false;
-                }
-            }
-            return misfit();
+            stage = BETWEEN_ITEMS;
         }
 
         private boolean readItem() {
-            switch (sort()) {
+            switch (sort) {
                 case PACK: return readPack();
                 case LOADER: return readLoader();
                 case ABSTRACT:
@@ -683,35 +705,26 @@ public final class CallCourt {
             }
         }
 
-        private boolean readInside() {
-            if (sort() != '}') {
-                return readMember();
-            }
+        private boolean closeType() {
             int number = closer.close(family, type);
             if (number != 0) {
                 return fail(number);
             }
-            inside = false;
+            stage = BETWEEN_ITEMS;
             advance();
             return true;
-        }
-
-        private int sort() {
-            return tokens.sorts[at];
-        }
-
-        private long value() {
-            return tokens.values[at];
         }
 
         private void advance() {
             if (at < tokens.count - 1) {
                 at++;
             }
+            sort = tokens.sorts[at];
+            value = tokens.values[at];
         }
 
         private boolean take(int wanted) {
-            if (sort() != wanted) {
+            if (sort != wanted) {
                 return misfit();
             }
             advance();
@@ -719,7 +732,7 @@ public final class CallCourt {
         }
 
         private boolean misfit() {
-            return fail(sort() == BAD ? 1 : 2);
+            return fail(sort == BAD ? 1 : 2);
         }
 
         private boolean fail(int number) {
@@ -730,10 +743,10 @@ public final class CallCourt {
 
         private boolean readPack() {
             advance();
-            if (sort() != NAME) {
+            if (sort != NAME) {
                 return misfit();
             }
-            pack = packNumber(value());
+            pack = packNumber(value);
             advance();
             return take(';');
         }
@@ -753,10 +766,10 @@ public final class CallCourt {
 
         private boolean readLoader() {
             advance();
-            if (sort() != DIGIT || value() > LOADER_LAST) {
+            if (sort != DIGIT || value > LOADER_LAST) {
                 return misfit();
             }
-            loader = (int) value();
+            loader = (int) value;
             advance();
             return take(';');
         }
@@ -766,33 +779,41 @@ public final class CallCourt {
                 return fail(6);
             }
             type = family.types[family.typeCount];
-            int what = sort() == FACE ? A_FACE : sort() == ABSTRACT ? ABSTRACT_CLASS : PLAIN_CLASS;
+            int what = sort == FACE ? A_FACE : sort == ABSTRACT ? ABSTRACT_CLASS : PLAIN_CLASS;
             type.clear(what, pack, loader, family.memberCount);
             advance();
             if (what == ABSTRACT_CLASS && !take(CLASS)) {
                 return false;
             }
-            inside = readTypeName() && readVars() && readNest() && readRefs() && take('{');
-            return inside;
+            return readTypeName();
         }
 
         private boolean readTypeName() {
-            if (sort() != NAME) {
+            if (sort != NAME) {
                 return misfit();
             }
             for (int t = 0; t < family.typeCount; t++) {
-                if (family.types[t].name == value()) {
+                if (family.types[t].name == value) {
                     return fail(3);
                 }
             }
-            type.name = value();
+            type.name = value;
             family.typeCount++;
+            stage = BEHIND_NAME;
             advance();
             return true;
         }
 
+        private boolean readHead() {
+            if (!readVars() || !readNest()) {
+                return false;
+            }
+            stage = sort == ':' ? AT_REF : INSIDE;
+            return take(sort == ':' ? ':' : '{');
+        }
+
         private boolean readVars() {
-            if (sort() != '<') {
+            if (sort != '<') {
                 return true;
             }
             advance();
@@ -800,7 +821,7 @@ public final class CallCourt {
                 if (!readVar(k) || !readBound(k)) {
                     return false;
                 }
-                if (k == VARS_MOST - 1 || sort() != ',') {
+                if (k == VARS_MOST - 1 || sort != ',') {
                     break;
                 }
                 advance();
@@ -809,13 +830,13 @@ public final class CallCourt {
         }
 
         private boolean readVar(int k) {
-            if (sort() != NAME) {
+            if (sort != NAME) {
                 return misfit();
             }
-            if (type.varNamed(value()) != NOT_THERE) {
+            if (type.varNamed(value) != NOT_THERE) {
                 return fail(3);
             }
-            type.varNames[k] = value();
+            type.varNames[k] = value;
             type.bounds[k] = KIND_ANY;
             type.setArgument(type.number, k, KIND_VAR + k);
             type.varCount = k + 1;
@@ -824,14 +845,14 @@ public final class CallCourt {
         }
 
         private boolean readBound(int k) {
-            if (sort() != UNDER) {
+            if (sort != UNDER) {
                 return true;
             }
             advance();
-            if (sort() != NAME) {
+            if (sort != NAME) {
                 return misfit();
             }
-            int bound = typeSeen(value());
+            int bound = typeSeen(value);
             if (bound == NOT_THERE) {
                 return fail(3);
             }
@@ -867,14 +888,14 @@ public final class CallCourt {
         }
 
         private boolean readNest() {
-            if (type.isFace() || sort() != OF) {
+            if (type.isFace() || sort != OF) {
                 return true;
             }
             advance();
-            if (sort() != NAME) {
+            if (sort != NAME) {
                 return misfit();
             }
-            int host = otherTypeSeen(value());
+            int host = otherTypeSeen(value);
             if (host == NOT_THERE) {
                 return fail(3);
             }
@@ -886,27 +907,11 @@ public final class CallCourt {
             return true;
         }
 
-        private boolean readRefs() {
-            if (sort() != ':') {
-                return true;
-            }
-            for (int i = 0; i <= REFS_MOST; i++) {
-                advance();
-                if (!readRef() || !readArguments()) {
-                    return false;
-                }
-                if (sort() != ',') {
-                    return true;
-                }
-            }
-            return misfit();
-        }
-
         private boolean readRef() {
-            if (sort() != NAME) {
+            if (sort != NAME) {
                 return misfit();
             }
-            ref = otherTypeSeen(value());
+            ref = otherTypeSeen(value);
             if (ref == NOT_THERE) {
                 return fail(3);
             }
@@ -929,12 +934,12 @@ public final class CallCourt {
 
         private boolean readArguments() {
             int count = 0;
-            if (sort() == '<') {
-                for (int k = 0; k < VARS_MOST && (k == 0 || sort() == ','); k++) {
+            if (sort == '<') {
+                for (int k = 0; k < VARS_MOST && (k == 0 || sort == ','); k++) {
                     advance();
-                    int kind = sort() == NAME ? kindNamed(value()) : NO_KIND;
+                    int kind = sort == NAME ? kindNamed(value) : NO_KIND;
                     if (kind == NO_KIND) {
-                        return sort() == NAME ? fail(3) : misfit();
+                        return sort == NAME ? fail(3) : misfit();
                     }
                     type.setArgument(ref, k, kind);
                     count = k + 1;
@@ -944,20 +949,25 @@ public final class CallCourt {
                     return false;
                 }
             }
-            if (sort() != ',' && sort() != '{') {
+            if (sort != ',' && sort != '{') {
                 return misfit();
             }
-            return count == family.types[ref].varCount || fail(4);
+            if (count != family.types[ref].varCount) {
+                return fail(4);
+            }
+            stage = sort == ',' ? AT_REF : INSIDE;
+            advance();
+            return true;
         }
 
         private boolean readMember() {
             row = family.members[family.memberCount];
             row.clear(type.number);
-            boolean hasAccess = sort() == OPEN || sort() == NEAR || sort() == OWN;
+            boolean hasAccess = sort == OPEN || sort == NEAR || sort == OWN;
             if (hasAccess && !readAccess()) {
                 return false;
             }
-            boolean hasForm = sort() == STATIC || sort() == ABSTRACT || sort() == LENT;
+            boolean hasForm = sort == STATIC || sort == ABSTRACT || sort == LENT;
             if (hasForm && !readForm()) {
                 return false;
             }
@@ -984,25 +994,25 @@ public final class CallCourt {
         }
 
         private boolean readAccess() {
-            if (sort() == NEAR && type.isFace()) {
+            if (sort == NEAR && type.isFace()) {
                 return fail(5);
             }
-            row.access = sort() == OPEN ? ACCESS_OPEN : sort() == NEAR ? ACCESS_NEAR : ACCESS_OWN;
+            row.access = sort == OPEN ? ACCESS_OPEN : sort == NEAR ? ACCESS_NEAR : ACCESS_OWN;
             return passFirst();
         }
 
         private boolean readForm() {
-            boolean wrongLent = sort() == LENT && !type.isFace();
-            boolean wrongAbstract = sort() == ABSTRACT && (type.what == PLAIN_CLASS || row.isOwn());
+            boolean wrongLent = sort == LENT && !type.isFace();
+            boolean wrongAbstract = sort == ABSTRACT && (type.what == PLAIN_CLASS || row.isOwn());
             if (wrongLent || wrongAbstract) {
                 return fail(5);
             }
-            row.form = sort() == STATIC ? FORM_STATIC : sort() == ABSTRACT ? FORM_ABSTRACT : FORM_LENT;
+            row.form = sort == STATIC ? FORM_STATIC : sort == ABSTRACT ? FORM_ABSTRACT : FORM_LENT;
             return passFirst();
         }
 
         private boolean readResult() {
-            if (sort() != NO_RESULT && !seesKind(RESULT)) {
+            if (sort != NO_RESULT && !seesKind(RESULT)) {
                 return false;
             }
             // Own and abstract: only an own one without form in a face comes here so.
@@ -1014,19 +1024,19 @@ public final class CallCourt {
 
         /** Whether the token is a kind, which is kept as KIND k; else the fault is told. */
         private boolean seesKind(int k) {
-            if (sort() != INT && sort() != NAME) {
+            if (sort != INT && sort != NAME) {
                 return misfit();
             }
-            int kind = sort() == INT ? KIND_INT : kindNamed(value());
+            int kind = sort == INT ? KIND_INT : kindNamed(value);
             row.kinds[k] = kind;
             return kind != NO_KIND || fail(3);
         }
 
         private boolean readMemberName() {
-            if (sort() != NAME) {
+            if (sort != NAME) {
                 return misfit();
             }
-            row.name = value();
+            row.name = value;
             advance();
             return true;
         }
@@ -1035,14 +1045,14 @@ public final class CallCourt {
             if (!take('(')) {
                 return false;
             }
-            boolean more = sort() != ')';
+            boolean more = sort != ')';
             for (int k = 0; k < RESULT && more; k++) {
                 if (!seesKind(k)) {
                     return false;
                 }
                 row.kindCount = k + 1;
                 advance();
-                more = k < RESULT - 1 && sort() == ',';
+                more = k < RESULT - 1 && sort == ',';
                 if (more) {
                     advance();
                 }
@@ -1077,6 +1087,9 @@ public final class CallCourt {
         private Type type;
         /** Three for each member of the type and of those above it: its kinds and result as the type sees them. */
         private final int[] kindsSeen = new int[MEMBERS_MOST * (RESULT + 1)];
+        /** The members of the types above it that are neither own nor static. */
+        private final int[] freeAbove = new int[MEMBERS_MOST];
+        private int freeCount;
 
         Closer(Family first) {
             family = first;
@@ -1094,6 +1107,7 @@ public final class CallCourt {
                 return 8;
             }
             gatherKinds();
+            gatherFree();
             markOverrides();
             if (hasWrongOverride()) {
                 return 9;
@@ -1169,6 +1183,16 @@ public final class CallCourt {
             }
         }
 
+        private void gatherFree() {
+            freeCount = 0;
+            for (int n = 0; n < type.firstMember; n++) {
+                if (isAbove(n) && family.members[n].isFree()) {
+                    freeAbove[freeCount] = n;
+                    freeCount++;
+                }
+            }
+        }
+
         private int resultSeen(int n) {
             return kindsSeen[n * (RESULT + 1) + RESULT];
         }
@@ -1185,10 +1209,6 @@ public final class CallCourt {
             return type.isBelow(family.members[n].type);
         }
 
-        private boolean isFreeAbove(int n) {
-            return isAbove(n) && family.members[n].isFree();
-        }
-
         private void markOverrides() {
             for (int m = type.firstMember; m < family.memberCount; m++) {
                 if (family.members[m].isFree()) {
@@ -1199,8 +1219,9 @@ public final class CallCourt {
 
         /** From the last one down: what lies between m and one further above is told behind that one. */
         private void markOverridesOf(int m) {
-            for (int n = type.firstMember - 1; n >= 0; n--) {
-                if (isFreeAbove(n) && isAlike(m, n) && (isWithinReach(n) || overridesBetween(m, n))) {
+            for (int i = freeCount - 1; i >= 0; i--) {
+                int n = freeAbove[i];
+                if (isAlike(m, n) && (isWithinReach(n) || overridesBetween(m, n))) {
                     family.setOverride(m, n);
                 }
             }
@@ -1256,25 +1277,20 @@ public final class CallCourt {
         }
 
         private boolean hasQuarrel() {
-            for (int n = 0; n < type.firstMember; n++) {
-                if (isFreeAbove(n) && !isOverridden(n) && hasQuarrelWith(n)) {
-                    return true;
+            for (int i = 0; i < freeCount; i++) {
+                for (int j = 0; j < i; j++) {
+                    if (isQuarrel(freeAbove[i], freeAbove[j])) {
+                        return true;
+                    }
                 }
             }
             return false;
         }
 
-        private boolean hasQuarrelWith(int n) {
-            for (int o = 0; o < n; o++) {
-                if (isFreeAbove(o) && isAlike(n, o) && resultSeen(n) != resultSeen(o) && areStrangers(n, o)
-                    && !isOverridden(o)) {
-                    return true;
-                }
+        private boolean isQuarrel(int n, int o) {
+            if (!isAlike(n, o) || resultSeen(n) == resultSeen(o) || isOverridden(n) || isOverridden(o)) {
+                return false;
             }
-            return false;
-        }
-
-        private boolean areStrangers(int n, int o) {
             int t = family.members[n].type;
             int u = family.members[o].type;
             return !family.isUnder(t, u) && !family.isUnder(u, t);
