@@ -148,11 +148,7 @@ public final class OverridesTest {
 
     /** Twenty-three classes that narrow one result: each has a bridge for each class above it. */
     private static void manyBridges() {
-        StringBuilder text = new StringBuilder("class A0{open A0 m();}");
-        for (int i = 1; i < 24; i++) {
-            text.append("class A").append(i).append(":A").append(i - 1).append("{open A").append(i).append(" m();}");
-        }
-        CallCourt x = Bench.court(text.toString());
+        CallCourt x = Bench.court(Texts.narrowing());
         Bench.due("told(2)", x.told(2), 24 * 23 / 2);
         for (int i = 0; i < 23; i++) {
             bridgeRow(x, 23, i, 23, 22 - i, NONE, NONE, 22 - i);

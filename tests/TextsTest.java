@@ -88,249 +88,208 @@ public final class TextsTest {
         Bench.due("compile: told(3)", x.told(3), 2);
     }
 
-    private static void right(String text, int types) {
-        CallCourt x = new CallCourt();
-        Bench.due("compile of " + text, Bench.compile(x, text), types);
-        Bench.due("fault of " + text, x.fault(), 0);
-        Bench.due("types of " + text, x.told(0), types);
-    }
-
-    /** The fault stands where the text has its first '@', which is not part of it; at its end without one. */
-    private static void wrong(int fault, String marked) {
-        int place = marked.indexOf('@');
-        String text = place < 0 ? marked : marked.substring(0, place) + marked.substring(place + 1);
-        CallCourt x = new CallCourt();
-        Bench.due("compile of " + text, Bench.compile(x, text), -20 - (place < 0 ? text.length() : place));
-        Bench.due("fault of " + text, x.fault(), fault);
-        Bench.due("types of " + text, x.told(0), 0);
-    }
-
     private static void tokens() {
-        right("class abcdefgh{}", 1);
-        right("class a2345678{int Z9();}", 1);
-        right("pack\np\n;class\nA{\n}", 1);
-        right("loader 1;loader 2;loader 0;", 0);
-        right("class A{}class B:A{int m(int,int);none k();}", 2);
-        wrong(1, "class @abcdefghi{}");
-        wrong(1, "class @a23456789{}");
-        wrong(1, "@staticstatic");
-        wrong(1, "@\tclass A{}");
-        wrong(1, "class A{}@\r");
-        wrong(1, "class A@_{}");
-        wrong(1, "class @\u00e9{}");
-        wrong(1, "@.");
-        wrong(1, "class A{int m(@-);}");
-        wrong(2, "class @9a{}");
-        wrong(2, "loader 1@2;");
-        wrong(2, "loader 1@x;");
-        wrong(2, "loader @9;");
-        wrong(2, "loader @x;");
-        wrong(2, "@classA{}");
-        wrong(2, "@;");
+        Texts.right("class abcdefgh{}", 1);
+        Texts.right("class a2345678{int Z9();}", 1);
+        Texts.right("pack\np\n;class\nA{\n}", 1);
+        Texts.right("loader 1;loader 2;loader 0;", 0);
+        Texts.right("class A{}class B:A{int m(int,int);none k();}", 2);
+        Texts.wrong(1, "class @abcdefghi{}");
+        Texts.wrong(1, "class @a23456789{}");
+        Texts.wrong(1, "@staticstatic");
+        Texts.wrong(1, "@\tclass A{}");
+        Texts.wrong(1, "class A{}@\r");
+        Texts.wrong(1, "class A@_{}");
+        Texts.wrong(1, "class @\u00e9{}");
+        Texts.wrong(1, "@.");
+        Texts.wrong(1, "class A{int m(@-);}");
+        Texts.wrong(2, "class @9a{}");
+        Texts.wrong(2, "loader 1@2;");
+        Texts.wrong(2, "loader 1@x;");
+        Texts.wrong(2, "loader @9;");
+        Texts.wrong(2, "loader @x;");
+        Texts.wrong(2, "@classA{}");
+        Texts.wrong(2, "@;");
     }
 
     private static void places() {
-        wrong(2, "pack");
-        wrong(2, "pack p  ");
-        wrong(2, "pack p; abstract");
-        wrong(2, "pack p; abstract @face A{}");
-        wrong(2, "abstract @abstract class A{}");
-        wrong(2, "class @open{}");
-        wrong(2, "class A@(){}");
-        wrong(2, "class A<@>{}");
-        wrong(2, "class A<V @W>{}");
-        wrong(2, "class A<V,W@,X>{}");
-        wrong(2, "class A<V under @int>{}");
-        wrong(2, "class A<V under");
-        wrong(2, "class A{} class B<V under A @under A>{}");
-        wrong(2, "class A<V>@<W>{}");
-        wrong(2, "class A{} class B of @{}");
-        wrong(2, "class A{} class B of A @of A{}");
-        wrong(2, "class A{} face F @of A{}");
-        wrong(2, "face A{} class B:A @of A{}");
-        wrong(2, "class A:@{}");
-        wrong(2, "face A{} class B:A,@{}");
-        wrong(2, "face A{} class B:A@;");
-        wrong(2, "face A<V>{} class B:A<@>{}");
-        wrong(2, "face A<V,W>{} class B:A<B,B@,B>{}");
-        wrong(2, "face A<V>{} class B:A<B");
-        wrong(2, "face A<V>{} class B:A<B>");
-        wrong(2, "face A<V>{} class B:A<B>@<B>{}");
-        wrong(2, "face A<V>{} class B:A");
-        wrong(2, "class A{@;}");
-        wrong(2, "class A{open@}");
-        wrong(2, "class A{static @open int m();}");
-        wrong(2, "class A{none @none m();}");
-        wrong(2, "class A{int @int();}");
-        wrong(2, "class A{int m@;}");
-        wrong(2, "class A{int m(@,);}");
-        wrong(2, "class A{int m(int,@);}");
-        wrong(2, "class A{int m(int @int);}");
-        wrong(2, "class A{int m(int,int@,int);}");
-        wrong(2, "class A{int m()@}");
-        wrong(2, "class A{int m();");
-        wrong(2, "class A{}@}");
-        wrong(2, "class A{@class B{}}");
+        Texts.wrong(2, "pack");
+        Texts.wrong(2, "pack p  ");
+        Texts.wrong(2, "pack p; abstract");
+        Texts.wrong(2, "pack p; abstract @face A{}");
+        Texts.wrong(2, "abstract @abstract class A{}");
+        Texts.wrong(2, "class @open{}");
+        Texts.wrong(2, "class A@(){}");
+        Texts.wrong(2, "class A<@>{}");
+        Texts.wrong(2, "class A<V @W>{}");
+        Texts.wrong(2, "class A<V,W@,X>{}");
+        Texts.wrong(2, "class A<V under @int>{}");
+        Texts.wrong(2, "class A<V under");
+        Texts.wrong(2, "class A{} class B<V under A @under A>{}");
+        Texts.wrong(2, "class A<V>@<W>{}");
+        Texts.wrong(2, "class A{} class B of @{}");
+        Texts.wrong(2, "class A{} class B of A @of A{}");
+        Texts.wrong(2, "class A{} face F @of A{}");
+        Texts.wrong(2, "face A{} class B:A @of A{}");
+        Texts.wrong(2, "class A:@{}");
+        Texts.wrong(2, "face A{} class B:A,@{}");
+        Texts.wrong(2, "face A{} class B:A@;");
+        Texts.wrong(2, "face A<V>{} class B:A<@>{}");
+        Texts.wrong(2, "face A<V,W>{} class B:A<B,B@,B>{}");
+        Texts.wrong(2, "face A<V>{} class B:A<B");
+        Texts.wrong(2, "face A<V>{} class B:A<B>");
+        Texts.wrong(2, "face A<V>{} class B:A<B>@<B>{}");
+        Texts.wrong(2, "face A<V>{} class B:A");
+        Texts.wrong(2, "class A{@;}");
+        Texts.wrong(2, "class A{open@}");
+        Texts.wrong(2, "class A{static @open int m();}");
+        Texts.wrong(2, "class A{none @none m();}");
+        Texts.wrong(2, "class A{int @int();}");
+        Texts.wrong(2, "class A{int m@;}");
+        Texts.wrong(2, "class A{int m(@,);}");
+        Texts.wrong(2, "class A{int m(int,@);}");
+        Texts.wrong(2, "class A{int m(int @int);}");
+        Texts.wrong(2, "class A{int m(int,int@,int);}");
+        Texts.wrong(2, "class A{int m()@}");
+        Texts.wrong(2, "class A{int m();");
+        Texts.wrong(2, "class A{}@}");
+        Texts.wrong(2, "class A{@class B{}}");
     }
 
     private static void names() {
-        right("class A<A>{A m();}", 1);
-        right("class V{} class A<V under V>:V{V m(V);}", 2);
-        right("class A{A A(A);}", 1);
-        right("pack A; class A{int A();}", 1);
-        right("loader 1; class A{} class B:A{A m();} loader 0; class C{}", 3);
-        right("class A{} loader 2; class B<V under A>:A{A m(B);}", 2);
-        wrong(3, "class A{} face @A{}");
-        wrong(3, "loader 1; class A{} loader 2; class @A{}");
-        wrong(3, "class A<V,@V>{}");
-        wrong(3, "class A<V under @W,W>{}");
-        wrong(3, "class A<V>:@V{}");
-        wrong(3, "class A<V> of @V{}");
-        wrong(3, "class A{int m(@V);}");
-        wrong(3, "class A{@V m();}");
-        wrong(3, "class A{} class B{int m(A,@C);}");
-        wrong(3, "class A<V>{} class B{@V m();}");
-        wrong(3, "class A{@B m();} class B{}");
-        wrong(3, "face A<V>{} class B:A<@C>{}");
-        wrong(3, "loader 1; class A{} loader 0; class B<V under @A>{}");
-        wrong(3, "loader 1; class A{} loader 2; class B of @A{}");
-        wrong(3, "face F<V>{} loader 1; class A{} loader 2; class B:F<@A>{}");
-        wrong(3, "loader 1; class A{} loader 0; class B{int m(@A);}");
-        wrong(3, "face A:@A{}");
+        Texts.right("class A<A>{A m();}", 1);
+        Texts.right("class V{} class A<V under V>:V{V m(V);}", 2);
+        Texts.right("class A{A A(A);}", 1);
+        Texts.right("pack A; class A{int A();}", 1);
+        Texts.right("loader 1; class A{} class B:A{A m();} loader 0; class C{}", 3);
+        Texts.right("class A{} loader 2; class B<V under A>:A{A m(B);}", 2);
+        Texts.wrong(3, "class A{} face @A{}");
+        Texts.wrong(3, "loader 1; class A{} loader 2; class @A{}");
+        Texts.wrong(3, "class A<V,@V>{}");
+        Texts.wrong(3, "class A<V under @W,W>{}");
+        Texts.wrong(3, "class A<V>:@V{}");
+        Texts.wrong(3, "class A<V> of @V{}");
+        Texts.wrong(3, "class A{int m(@V);}");
+        Texts.wrong(3, "class A{@V m();}");
+        Texts.wrong(3, "class A{} class B{int m(A,@C);}");
+        Texts.wrong(3, "class A<V>{} class B{@V m();}");
+        Texts.wrong(3, "class A{@B m();} class B{}");
+        Texts.wrong(3, "face A<V>{} class B:A<@C>{}");
+        Texts.wrong(3, "loader 1; class A{} loader 0; class B<V under @A>{}");
+        Texts.wrong(3, "loader 1; class A{} loader 2; class B of @A{}");
+        Texts.wrong(3, "face F<V>{} loader 1; class A{} loader 2; class B:F<@A>{}");
+        Texts.wrong(3, "loader 1; class A{} loader 0; class B{int m(@A);}");
+        Texts.wrong(3, "face A:@A{}");
     }
 
     private static void refs() {
-        right("abstract class A{} class B:A{} face F{} class C:B,F{} class D:F{}", 5);
-        right("face F<V,W>{} face G<V>:F<V,G>{}", 2);
-        wrong(4, "abstract class A{} face F:@A{}");
-        wrong(4, "class A{} face F{} class B:F,@A{}");
-        wrong(4, "class A{} class B{} class C:A,@B{}");
-        wrong(4, "class A{} class B:A,@A{}");
-        wrong(4, "face F<V>{} class B:F<B>,@F<B>{}");
-        wrong(4, "face F{} face G<V>{} class B:F,G@,F{}");
-        wrong(4, "face F<V,W>{} class B:F<B>@{}");
-        wrong(4, "face F<V>{} class B:F<B,B>@{}");
-        wrong(4, "face F{} class B:F<B>@{}");
-        wrong(4, "face F{} class B:F<B,B>@,F{}");
+        Texts.right("abstract class A{} class B:A{} face F{} class C:B,F{} class D:F{}", 5);
+        Texts.right("face F<V,W>{} face G<V>:F<V,G>{}", 2);
+        Texts.wrong(4, "abstract class A{} face F:@A{}");
+        Texts.wrong(4, "class A{} face F{} class B:F,@A{}");
+        Texts.wrong(4, "class A{} class B{} class C:A,@B{}");
+        Texts.wrong(4, "class A{} class B:A,@A{}");
+        Texts.wrong(4, "face F<V>{} class B:F<B>,@F<B>{}");
+        Texts.wrong(4, "face F{} face G<V>{} class B:F,G@,F{}");
+        Texts.wrong(4, "face F<V,W>{} class B:F<B>@{}");
+        Texts.wrong(4, "face F<V>{} class B:F<B,B>@{}");
+        Texts.wrong(4, "face F{} class B:F<B>@{}");
+        Texts.wrong(4, "face F{} class B:F<B,B>@,F{}");
     }
 
     private static void nests() {
-        right("class A{} class B of A{} class C of A{}", 3);
-        right("face A{} class B<V> of A:A{}", 2);
-        right("pack p; class A{} pack q; class B{} pack p; class C of A{}", 3);
-        wrong(3, "class A of @A{}");
-        wrong(4, "class A{} class B of A{} class C of @B{}");
-        wrong(4, "class A{} pack p; class B of @A{}");
-        wrong(4, "pack p; class A{} pack q; class B of @A{}");
-        wrong(4, "class A{} loader 1; class B of @A{}");
+        Texts.right("class A{} class B of A{} class C of A{}", 3);
+        Texts.right("face A{} class B<V> of A:A{}", 2);
+        Texts.right("pack p; class A{} pack q; class B{} pack p; class C of A{}", 3);
+        Texts.wrong(3, "class A of @A{}");
+        Texts.wrong(4, "class A{} class B of A{} class C of @B{}");
+        Texts.wrong(4, "class A{} pack p; class B of @A{}");
+        Texts.wrong(4, "pack p; class A{} pack q; class B of @A{}");
+        Texts.wrong(4, "class A{} loader 1; class B of @A{}");
     }
 
     private static void memberWords() {
-        right("class A{open int a(); near int b(); own int c(); int d(); open static int e(); own static int f();}", 1);
-        right("abstract class A{abstract int a(); near abstract int b(); open abstract int c(); none d();}", 1);
-        right("face F{own static int a(); own lent int b(); open int c(); abstract int d(); lent none e(); static int f();}",
+        Texts.right("class A{open int a(); near int b(); own int c(); int d(); open static int e(); own static int f();}", 1);
+        Texts.right("abstract class A{abstract int a(); near abstract int b(); open abstract int c(); none d();}", 1);
+        Texts.right("face F{own static int a(); own lent int b(); open int c(); abstract int d(); lent none e(); static int f();}",
             1);
-        wrong(5, "face F{@near int m();}");
-        wrong(5, "class A{@lent int m();}");
-        wrong(5, "abstract class A{open @lent int m();}");
-        wrong(5, "class A{open @abstract int m();}");
-        wrong(5, "abstract class A{own @abstract int m();}");
-        wrong(5, "face F{own @abstract int m();}");
-        wrong(5, "face F{own @none m();}");
-        wrong(5, "face F{own @F m();}");
-    }
-
-    private static String types(int count) {
-        StringBuilder text = new StringBuilder();
-        for (int i = 0; i < count; i++) {
-            text.append("class T").append(i).append("{}");
-        }
-        return text.toString();
-    }
-
-    private static String membersOf(int count) {
-        StringBuilder text = new StringBuilder();
-        for (int i = 0; i < count; i++) {
-            text.append("int m").append(i).append("();");
-        }
-        return text.toString();
-    }
-
-    private static String fullTypes(int count) {
-        StringBuilder text = new StringBuilder();
-        for (int i = 0; i < count; i++) {
-            text.append("class T").append(i).append("{").append(membersOf(8)).append("}");
-        }
-        return text.toString();
+        Texts.wrong(5, "face F{@near int m();}");
+        Texts.wrong(5, "class A{@lent int m();}");
+        Texts.wrong(5, "abstract class A{open @lent int m();}");
+        Texts.wrong(5, "class A{open @abstract int m();}");
+        Texts.wrong(5, "abstract class A{own @abstract int m();}");
+        Texts.wrong(5, "face F{own @abstract int m();}");
+        Texts.wrong(5, "face F{own @none m();}");
+        Texts.wrong(5, "face F{own @F m();}");
     }
 
     private static void tooMany() {
-        right(types(24), 24);
-        wrong(6, types(24) + "@class Z{}");
-        wrong(6, types(24) + "pack p; @abstract class Z{}");
-        wrong(6, types(24) + "@face $");
-        right("class A{" + membersOf(8) + "}", 1);
-        wrong(6, "class A{" + membersOf(8) + "@int z();}");
-        wrong(6, "class A{" + membersOf(8) + "@open int z();}");
-        wrong(6, "class A{" + membersOf(8) + "@static $");
-        wrong(6, "class A{" + membersOf(8) + "@A z();}");
-        right(fullTypes(15) + "class Z{}", 16);
-        wrong(6, fullTypes(15) + "class Z{@none z();}");
-        wrong(6, fullTypes(15) + "face Z{@lent none z();}");
+        Texts.right(Texts.types(24), 24);
+        Texts.wrong(6, Texts.types(24) + "@class Z{}");
+        Texts.wrong(6, Texts.types(24) + "pack p; @abstract class Z{}");
+        Texts.wrong(6, Texts.types(24) + "@face $");
+        Texts.right("class A{" + Texts.membersOf(8) + "}", 1);
+        Texts.wrong(6, "class A{" + Texts.membersOf(8) + "@int z();}");
+        Texts.wrong(6, "class A{" + Texts.membersOf(8) + "@open int z();}");
+        Texts.wrong(6, "class A{" + Texts.membersOf(8) + "@static $");
+        Texts.wrong(6, "class A{" + Texts.membersOf(8) + "@A z();}");
+        Texts.right(Texts.fullTypes(15) + "class Z{}", 16);
+        Texts.wrong(6, Texts.fullTypes(15) + "class Z{@none z();}");
+        Texts.wrong(6, Texts.fullTypes(15) + "face Z{@lent none z();}");
         String faces = "face A{} face B{} face C{} face D{} face E{} class X{} ";
-        right(faces + "class Y:X,A,B,C{}", 7);
-        wrong(6, faces + "class Y:X,A,B,C,@D{}");
-        wrong(6, faces + "face Y:A,B,C,D,@E{}");
+        Texts.right(faces + "class Y:X,A,B,C{}", 7);
+        Texts.wrong(6, faces + "class Y:X,A,B,C,@D{}");
+        Texts.wrong(6, faces + "face Y:A,B,C,D,@E{}");
     }
 
     private static void atTheLastBrace() {
-        wrong(7, "class A{int m(); int k(); own static A m();@}");
-        wrong(7, "class A{} class B<V under A,W>{int m(V,W); int m(A,W);@}");
-        right("class A{int m(); int m(int); int m(int,int); int m(A); int k();}", 1);
-        wrong(8, "face F<V>{} class A{} class B:F<A>{} class C:B,F<B>{@}");
-        wrong(8, "face F<V>{} face G<V>:F<V>{} face H<V>:F<V>{} class C:G<C>,H<G>{@}");
-        right("face F<V>{} face G<V>:F<V>{} face H<V>:F<V>{} class C<W>:G<W>,H<W>{}", 4);
-        wrong(9, "class A{near int m();} class B:A{int m();@}");
-        wrong(9, "class A{open int m();} class B:A{near int m();@}");
-        wrong(9, "face F{int m();} class B:F{near int m();@}");
-        wrong(9, "class A{static int m();} class B:A{int m();@}");
-        wrong(9, "class A{int m();} class B:A{static int m();@}");
-        wrong(9, "class A{static int m();} class B:A{static none m();@}");
-        wrong(9, "class A{open static A m();} class B:A{near static A m();@}");
-        wrong(9, "face F<V>{V m();} class A:F<A>{open F m();@}");
-        right("face F<V>{V m();} class A<W>:F<W>{open W m();}", 2);
-        right("class A{} face F{A m();} class B<W under A>:F{open W m();}", 3);
-        wrong(9, "class A{} face F{A m();} class B<W>:F{open W m();@}");
-        wrong(9, "class A{} face F{A m();} class B<W under F>:F{open W m();@}");
-        right("class A{own int m();} class B:A{static none m();}", 2);
-        right("pack p; class A{static int m();} pack q; class B:A{none m();}", 2);
-        wrong(9, "pack p; class A{int m();} class B:A{open int m();} pack q; class C:B{near int m();@}");
-        right("class A{int m();} loader 1; class B:A{none m();}", 2);
-        wrong(10, "face A{int m();} face B{none m();} face C:A,B{@}");
-        wrong(10, "face A<V>{V m(V);} face B{int m(B);} class C:A<B>,B{@}");
-        right("face A<V>{V m(V);} face B{B m(B);} class C:A<B>,B{}", 3);
-        right("face A{int m();} face B{static none m(); own lent none m(int);} class C:A,B{}", 3);
-        right("face A{A m();} face B:A{B m();} class C:A,B{}", 3);
-        right("face A{A m();} face B{B m();} face D:A,B{D m();} class C:D,A,B{open C m();}", 4);
-        right("class P{none m();} face F{int m();} pack p; class C:P,F{open int m();}", 3);
-        wrong(10, "face A{A m();} face B{B m();} face D:A,B{D m();} class C:D{@}");
+        Texts.wrong(7, "class A{int m(); int k(); own static A m();@}");
+        Texts.wrong(7, "class A{} class B<V under A,W>{int m(V,W); int m(A,W);@}");
+        Texts.right("class A{int m(); int m(int); int m(int,int); int m(A); int k();}", 1);
+        Texts.wrong(8, "face F<V>{} class A{} class B:F<A>{} class C:B,F<B>{@}");
+        Texts.wrong(8, "face F<V>{} face G<V>:F<V>{} face H<V>:F<V>{} class C:G<C>,H<G>{@}");
+        Texts.right("face F<V>{} face G<V>:F<V>{} face H<V>:F<V>{} class C<W>:G<W>,H<W>{}", 4);
+        Texts.wrong(9, "class A{near int m();} class B:A{int m();@}");
+        Texts.wrong(9, "class A{open int m();} class B:A{near int m();@}");
+        Texts.wrong(9, "face F{int m();} class B:F{near int m();@}");
+        Texts.wrong(9, "class A{static int m();} class B:A{int m();@}");
+        Texts.wrong(9, "class A{int m();} class B:A{static int m();@}");
+        Texts.wrong(9, "class A{static int m();} class B:A{static none m();@}");
+        Texts.wrong(9, "class A{open static A m();} class B:A{near static A m();@}");
+        Texts.wrong(9, "face F<V>{V m();} class A:F<A>{open F m();@}");
+        Texts.right("face F<V>{V m();} class A<W>:F<W>{open W m();}", 2);
+        Texts.right("class A{} face F{A m();} class B<W under A>:F{open W m();}", 3);
+        Texts.wrong(9, "class A{} face F{A m();} class B<W>:F{open W m();@}");
+        Texts.wrong(9, "class A{} face F{A m();} class B<W under F>:F{open W m();@}");
+        Texts.right("class A{own int m();} class B:A{static none m();}", 2);
+        Texts.right("pack p; class A{static int m();} pack q; class B:A{none m();}", 2);
+        Texts.wrong(9, "pack p; class A{int m();} class B:A{open int m();} pack q; class C:B{near int m();@}");
+        Texts.right("class A{int m();} loader 1; class B:A{none m();}", 2);
+        Texts.wrong(10, "face A{int m();} face B{none m();} face C:A,B{@}");
+        Texts.wrong(10, "face A<V>{V m(V);} face B{int m(B);} class C:A<B>,B{@}");
+        Texts.right("face A<V>{V m(V);} face B{B m(B);} class C:A<B>,B{}", 3);
+        Texts.right("face A{int m();} face B{static none m(); own lent none m(int);} class C:A,B{}", 3);
+        Texts.right("face A{A m();} face B:A{B m();} class C:A,B{}", 3);
+        Texts.right("face A{A m();} face B{B m();} face D:A,B{D m();} class C:D,A,B{open C m();}", 4);
+        Texts.right("class P{none m();} face F{int m();} pack p; class C:P,F{open int m();}", 3);
+        Texts.wrong(10, "face A{A m();} face B{B m();} face D:A,B{D m();} class C:D{@}");
     }
 
     private static void leastFaultOfOneToken() {
-        wrong(3, types(23) + "class @T0{}");
-        wrong(5, "class A{" + membersOf(8) + "@lent int z();}");
-        wrong(3, "class A{" + membersOf(8) + "@B z();}");
-        wrong(2, "class A{" + membersOf(8) + "@;}");
-        wrong(1, "class A{" + membersOf(8) + "@$}");
+        Texts.wrong(3, Texts.types(23) + "class @T0{}");
+        Texts.wrong(5, "class A{" + Texts.membersOf(8) + "@lent int z();}");
+        Texts.wrong(3, "class A{" + Texts.membersOf(8) + "@B z();}");
+        Texts.wrong(2, "class A{" + Texts.membersOf(8) + "@;}");
+        Texts.wrong(1, "class A{" + Texts.membersOf(8) + "@$}");
         String faces = "face A{} face B{} face C{} face D{} face E{} class X{} ";
-        wrong(4, faces + "class Y:A,B,C,D,@X{}");
-        wrong(4, faces + "class Y:A,B,C,D,@A{}");
-        wrong(3, faces + "class Y:A,B,C,D,@F{}");
-        wrong(3, "face F{own @G m();}");
-        wrong(2, "face F{own @open m();}");
-        wrong(1, "face F<V>{} class B:F@$");
-        wrong(7, "face F<V>{} class A{open int k();} class B:A,F<A>{} class C:B,F<B>{none k(); int m(); int m();@}");
-        wrong(8, "face F<V>{} class A{open int k();} class B:A,F<A>{} class C:B,F<B>{none k();@}");
-        wrong(9, "class A{open int k();} face F{int m();} face G{none m();} class C:A,F,G{none k();@}");
+        Texts.wrong(4, faces + "class Y:A,B,C,D,@X{}");
+        Texts.wrong(4, faces + "class Y:A,B,C,D,@A{}");
+        Texts.wrong(3, faces + "class Y:A,B,C,D,@F{}");
+        Texts.wrong(3, "face F{own @G m();}");
+        Texts.wrong(2, "face F{own @open m();}");
+        Texts.wrong(1, "face F<V>{} class B:F@$");
+        Texts.wrong(7, "face F<V>{} class A{open int k();} class B:A,F<A>{} class C:B,F<B>{none k(); int m(); int m();@}");
+        Texts.wrong(8, "face F<V>{} class A{open int k();} class B:A,F<A>{} class C:B,F<B>{none k();@}");
+        Texts.wrong(9, "class A{open int k();} face F{int m();} face G{none m();} class C:A,F,G{none k();@}");
     }
 }

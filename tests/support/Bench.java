@@ -2,15 +2,25 @@
 final class Bench {
     private static int answers = 0;
     private static int wrong = 0;
+    /** Said ahead of each wrong answer. */
+    private static String test = "";
 
     private Bench() {
+    }
+
+    static void begin(String named) {
+        test = named;
+    }
+
+    static int answers() {
+        return answers;
     }
 
     static void due(String what, int got, int want) {
         answers++;
         if (got != want) {
             wrong++;
-            System.out.println(what + " answered " + got + ", due is " + want);
+            System.out.println(test + what + " answered " + got + ", due is " + want);
         }
     }
 
@@ -42,7 +52,7 @@ final class Bench {
         int answer = compile(court, text);
         if (answer < 0) {
             wrong++;
-            System.out.println("FAULT " + court.fault() + " at " + (-20 - answer) + " in: " + text);
+            System.out.println(test + "FAULT " + court.fault() + " at " + (-20 - answer) + " in: " + text);
         }
         return court;
     }
