@@ -1,6 +1,3 @@
-import java.util.ArrayList;
-import java.util.List;
-
 /** Which NAMES stand for what, and the FAULTS 1 to 6 (promise 5); 7 to 10 have a class of their own. */
 final class BoundsOfFaults {
     private static final String FACES = "face A{} face B{} face C{} face D{} face E{} class X{} ";
@@ -142,11 +139,10 @@ final class BoundsOfFaults {
 
     @Sentence(promise = 5, says = "2 it cannot stand there")
     static void cannotStandThere() {
-        String[] tokens = {"pack", "p", ";", "abstract", "class", "A", "<", "V", "under", "A", ",", "W", ">", "{", "open", "static",
-            "int", "m", "(", "V", ",", "int", ")", ";", "}", "class", "B", "of", "A", ":", "A", "<", "B", ",", "B", ">", "{",
-            "}"};
+        String[] tokens = ("pack p ; abstract class A < V under A , W > { open static int m ( V , int ) ; }"
+            + " class B of A : A < B , B > { }").split(" ");
         Texts.right(String.join(" ", tokens), 2);
-        // no token can stand in another one's place but the end behind an item, and a NAME that is not told
+        // a DIGIT can stand behind loader alone, and loader where an item begins alone
         for (int i = 0; i < tokens.length; i++) {
             StringBuilder text = new StringBuilder();
             for (int j = 0; j < i; j++) {
@@ -157,32 +153,26 @@ final class BoundsOfFaults {
         }
     }
 
-    /** Whether the text may end ahead of token i. */
     private static boolean startsAnItem(String[] tokens, int i) {
         return i == 0 || tokens[i - 1].equals("}") || i == 3;
     }
 
     @Sentence(promise = 5, says = "(the end: the length).")
     static void theEndStandsAtTheLength() {
-        String[] tokens = {"pack", "p", ";", "loader", "1", ";", "abstract", "class", "A", "<", "V", "under", "A", ",", "W", ">", "{",
-            "open", "static", "int", "m", "(", "V", ",", "int", ")", ";", "}", "class", "B", "of", "A", ":", "A", "<", "B", ",",
-            "B", ">", "{", "own", "none", "k", "(", ")", ";", "}"};
+        String[] tokens = ("pack p ; loader 1 ; abstract class A < V under A , W > { open static int m ( V , int ) ; }"
+            + " class B of A : A < B , B > { own none k ( ) ; }").split(" ");
         StringBuilder text = new StringBuilder();
-        List<String> ends = new ArrayList<>();
         for (int i = 0; i < tokens.length; i++) {
             text.append(tokens[i]);
             boolean isWhole = tokens[i].equals("}") || i == 2 || i == 5;
             for (String end : new String[] {"", " ", "\n  "}) {
-                if (!isWhole) {
-                    ends.add(text + end);
-                } else {
+                if (isWhole) {
                     Texts.right(text + end, i < 27 ? 0 : i < 46 ? 1 : 2);
+                } else {
+                    Texts.wrongAt(2, text.length() + end.length(), text + end);
                 }
             }
             text.append(' ');
-        }
-        for (String end : ends) {
-            Texts.wrongAt(2, end.length(), end);
         }
     }
 
@@ -358,7 +348,8 @@ final class BoundsOfFaults {
     static void the9thMember() {
         String eight = Texts.membersOf(8);
         Texts.right("class A{" + eight + "} class B{" + eight + "}", 2);
-        for (String first : new String[] {"int", "none", "A", "open int", "near none", "own A", "static int", "open static int"}) {
+        for (String first : new String[] {"int", "none", "A", "open int", "near none", "own A", "static int",
+            "open static int"}) {
             Texts.wrong(6, "class A{" + eight + "@" + first + " z();}");
         }
         Texts.wrong(6, "face A{" + eight + "@lent int z();}");

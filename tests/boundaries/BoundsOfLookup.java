@@ -18,13 +18,14 @@ final class BoundsOfLookup {
     }
 
     private static void may(CallCourt x, int caller, int named, int m, int receiver, int want) {
-        Bench.due("may(" + caller + ", " + named + ", " + m + ", " + receiver + ")", x.may(caller, named, m, receiver), want);
+        Bench.due("may(" + caller + ", " + named + ", " + m + ", " + receiver + ")", x.may(caller, named, m, receiver),
+            want);
     }
 
     // ---- 15 lookup
 
-    @Sentence(promise = 15, says = "CALLS name a type and a member (which gives NAME, ERASED kinds and result alone: what is"
-        + " LOOKED for).")
+    @Sentence(promise = 15, says = "CALLS name a type and a member (which gives NAME, ERASED kinds and result alone:"
+        + " what is LOOKED for).")
     static void whatAMemberGives() {
         CallCourt x = Bench.court("class P{} class A{own static int m(P); int k(P); none n(P); int o(P,P); int p(int);}"
             + " class B<V under P>{open int m(V); open int n(V); int o(V); int p(V);}");
@@ -41,11 +42,11 @@ final class BoundsOfLookup {
         lookup(x, 0, 0, -1);
     }
 
-    @Sentence(promise = 15, says = "LOOKUP in a class: it, then its class above, and so on: the first with such a METHOD (it has"
-        + " one at most);")
+    @Sentence(promise = 15, says = "LOOKUP in a class: it, then its class above, and so on: the first with such a"
+        + " METHOD (it has one at most);")
     static void upwardThroughClasses() {
-        CallCourt x = Bench.court("face F{lent int m();} class A{open int m(); own int k(); static int s();} class B:A{} class C:B,F{"
-            + "open int m();} class D:C{own int k();} class E:B,F{}");
+        CallCourt x = Bench.court("face F{lent int m();} class A{open int m(); own int k(); static int s();}"
+            + " class B:A{} class C:B,F{open int m();} class D:C{own int k();} class E:B,F{}");
         lookup(x, 1, 0, 1);
         lookup(x, 2, 1, 1);
         lookup(x, 3, 1, 4);
@@ -70,8 +71,9 @@ final class BoundsOfLookup {
 
     @Sentence(promise = 15, says = "if just one of these is not abstract: that;")
     static void theOnlyBody() {
-        CallCourt x = Bench.court("face A{int m();} face B{lent int m();} face C{lent int m();} class D:A,B{} class E:B,A{}"
-            + " class F:A,B,C{} face G:A,B{} class H:A{} face I:B{int m();} class J:A,I{} class K:A,I,C{}");
+        CallCourt x = Bench.court("face A{int m();} face B{lent int m();} face C{lent int m();} class D:A,B{}"
+            + " class E:B,A{} class F:A,B,C{} face G:A,B{} class H:A{} face I:B{int m();} class J:A,I{}"
+            + " class K:A,I,C{}");
         lookup(x, 3, 0, 1);
         lookup(x, 4, 0, 1);
         lookup(x, 6, 0, 1);
@@ -89,8 +91,9 @@ final class BoundsOfLookup {
 
     @Sentence(promise = 15, says = "else the first of all such METHODS by the order above;")
     static void theFirstOfAll() {
-        CallCourt x = Bench.court("face A{lent int m();} face B:A{int m();} face C:A{int m();} face D{lent int m();} face E{lent int m();}"
-            + " class F:B,C{} class G:C,B{} class H:A,B,C{} class I:D,E{} class J:E,D{} face K:E,D{}");
+        CallCourt x = Bench.court("face A{lent int m();} face B:A{int m();} face C:A{int m();} face D{lent int m();}"
+            + " face E{lent int m();} class F:B,C{} class G:C,B{} class H:A,B,C{} class I:D,E{} class J:E,D{}"
+            + " face K:E,D{}");
         lookup(x, 5, 0, 1);
         lookup(x, 6, 0, 2);
         // A's is not SPECIFIC, but the first
@@ -107,7 +110,8 @@ final class BoundsOfLookup {
 
     @Sentence(promise = 15, says = "else nothing.")
     static void nothing() {
-        CallCourt x = Bench.court("class A{} face B{static int m(); own lent int k();} class C:A,B{} face D:B{} class E{int z();}");
+        CallCourt x = Bench.court("class A{} face B{static int m(); own lent int k();} class C:A,B{} face D:B{}"
+            + " class E{int z();}");
         lookup(x, 2, 0, -1);
         lookup(x, 2, 1, -1);
         lookup(x, 3, 0, -1);
@@ -127,8 +131,8 @@ final class BoundsOfLookup {
 
     @Sentence(promise = 15, says = "or 1000 and the number of the one that the BRIDGE found is to;")
     static void lookupTellsTheBridge() {
-        CallCourt x = Bench.court("class A{open A m();} class B:A{open B m();} class C:B{} face F<V>{none k(V);} face G:F<A>{lent none k(A);}"
-            + " class H:G{}");
+        CallCourt x = Bench.court("class A{open A m();} class B:A{open B m();} class C:B{} face F<V>{none k(V);}"
+            + " face G:F<A>{lent none k(A);} class H:G{}");
         lookup(x, 0, 0, 0);
         lookup(x, 1, 0, 1001);
         lookup(x, 1, 1, 1);
@@ -160,11 +164,12 @@ final class BoundsOfLookup {
 
     // ---- 16 specific
 
-    @Sentence(promise = 16, says = "else, as in a face, among the faces above: the SPECIFIC ones: METHODS looked for, neither own"
-        + " nor static, of faces above it")
+    @Sentence(promise = 16, says = "else, as in a face, among the faces above: the SPECIFIC ones: METHODS looked for,"
+        + " neither own nor static, of faces above it")
     static void methodsOfFacesAbove() {
-        CallCourt x = Bench.court("face A{int m(); static int s(); own lent int o();} face B{lent int m(); int s(); int o();}"
-            + " class C:A,B{open int m();} class D:C{} face E:B,A{} class F{open int m();}");
+        CallCourt x = Bench.court("face A{int m(); static int s(); own lent int o();}"
+            + " face B{lent int m(); int s(); int o();} class C:A,B{open int m();} class D:C{} face E:B,A{}"
+            + " class F{open int m();}");
         specific(x, 2, 0, 0, 3);
         specific(x, 3, 0, 0, 3);
         specific(x, 4, 0, 3, 0);
@@ -181,8 +186,8 @@ final class BoundsOfLookup {
 
     @Sentence(promise = 16, says = "(of a face: itself, too: then it alone if it has one, whatever it is),")
     static void aFaceItself() {
-        CallCourt x = Bench.court("face A{lent int m(); static int s(); own lent int o(); int a(); own static int b();} face B:A{int m();}"
-            + " face C:A{} face D:A{static int s();}");
+        CallCourt x = Bench.court("face A{lent int m(); static int s(); own lent int o(); int a(); own static int b();}"
+            + " face B:A{int m();} face C:A{} face D:A{static int s();}");
         for (int m = 0; m < 5; m++) {
             specific(x, 0, m, m);
             lookup(x, 0, m, m);
@@ -205,8 +210,9 @@ final class BoundsOfLookup {
 
     @Sentence(promise = 16, says = "no other such of a face under theirs;")
     static void noneOfAFaceUnderTheirs() {
-        CallCourt x = Bench.court("face A{lent int m();} face B:A{int m();} face C:A{} face D{lent int m();} face E:C{lent int m();}"
-            + " class F:A,B{} class G:C,D{} class H:B,E,D{} class I:A,D,E{} face J:B{} class K:J,A{}");
+        CallCourt x = Bench.court("face A{lent int m();} face B:A{int m();} face C:A{} face D{lent int m();}"
+            + " face E:C{lent int m();} class F:A,B{} class G:C,D{} class H:B,E,D{} class I:A,D,E{} face J:B{}"
+            + " class K:J,A{}");
         specific(x, 5, 0, 1);
         specific(x, 6, 0, 0, 2);
         specific(x, 7, 0, 1, 3, 2);
@@ -220,8 +226,8 @@ final class BoundsOfLookup {
 
     @Sentence(promise = 16, says = "The i-th SPECIFIC one in a type (by the order above), as lookup() tells.")
     static void theIthSpecific() {
-        CallCourt x = Bench.court("face A{int m();} face B{int m();} face C{int m();} face D{int m();} class E:C,A,D,B{} class F:D,C{}"
-            + " class G:F,B,A{}");
+        CallCourt x = Bench.court("face A{int m();} face B{int m();} face C{int m();} face D{int m();}"
+            + " class E:C,A,D,B{} class F:D,C{} class G:F,B,A{}");
         specific(x, 4, 0, 2, 0, 3, 1);
         specific(x, 5, 0, 3, 2);
         specific(x, 6, 0, 3, 2, 1, 0);
@@ -248,10 +254,11 @@ final class BoundsOfLookup {
 
     // ---- 17 may
 
-    @Sentence(promise = 17, says = "MAY a caller have a METHOD found of D, by a named type, with a receiver's type: open: yes;")
+    @Sentence(promise = 17, says = "MAY a caller have a METHOD found of D, by a named type, with a receiver's type:"
+        + " open: yes;")
     static void openToAll() {
-        CallCourt x = Bench.court("pack p; class A{open int m(); open static int s();} face F{int k(); static int j();} pack q; loader 1;"
-            + " class B{}");
+        CallCourt x = Bench.court("pack p; class A{open int m(); open static int s();} face F{int k(); static int j();}"
+            + " pack q; loader 1; class B{}");
         for (int m = 0; m < 4; m++) {
             for (int receiver = 0; receiver < 3; receiver++) {
                 may(x, 2, m < 2 ? 0 : 1, m, receiver, 1);
@@ -261,8 +268,8 @@ final class BoundsOfLookup {
 
     @Sentence(promise = 17, says = "own: its nest is D's (nests: the type that of names, or itself);")
     static void ownToItsNest() {
-        CallCourt x = Bench.court("class A{own int m();} class B of A{own static int k();} class C of A{} class D:A{} class E{}"
-            + " class F of E{} face G{own lent int j();} class H of G{}");
+        CallCourt x = Bench.court("class A{own int m();} class B of A{own static int k();} class C of A{} class D:A{}"
+            + " class E{} class F of E{} face G{own lent int j();} class H of G{}");
         int[] mayHave = {1, 1, 1, 0, 0, 0, 0, 0};
         for (int caller = 0; caller < 8; caller++) {
             may(x, caller, 0, 0, 0, mayHave[caller]);
@@ -275,8 +282,8 @@ final class BoundsOfLookup {
 
     @Sentence(promise = 17, says = "none: the run-time package is D's;")
     static void noneToItsPackage() {
-        CallCourt x = Bench.court("pack p; class A{int m(); static int s();} class B{} pack q; class C:A{} class D{} pack p; loader 1;"
-            + " class E:A{} loader 0; class F{}");
+        CallCourt x = Bench.court("pack p; class A{int m(); static int s();} class B{} pack q; class C:A{} class D{}"
+            + " pack p; loader 1; class E:A{} loader 0; class F{}");
         int[] mayHave = {1, 1, 0, 0, 0, 1};
         for (int caller = 0; caller < 6; caller++) {
             may(x, caller, 0, 0, 0, mayHave[caller]);
@@ -288,8 +295,8 @@ final class BoundsOfLookup {
 
     @Sentence(promise = 17, says = "near: that, or the caller is under D,")
     static void nearToThoseUnder() {
-        CallCourt x = Bench.court("pack p; class A{near int m();} class B{} pack q; class C:A{} class D:C{} class E{} loader 1; pack p;"
-            + " class F:A{} class G{}");
+        CallCourt x = Bench.court("pack p; class A{near int m();} class B{} pack q; class C:A{} class D:C{} class E{}"
+            + " loader 1; pack p; class F:A{} class G{}");
         // of one run-time package: whatever the named type and the receiver
         may(x, 1, 0, 0, 0, 1);
         may(x, 1, 2, 0, 4, 1);
@@ -310,8 +317,8 @@ final class BoundsOfLookup {
 
     @Sentence(promise = 17, says = "and (if it is not static) the named type is the caller's, under it or above it,")
     static void theNamedTypeIsKin() {
-        CallCourt x = Bench.court("pack p; class A{near int m(); near static int s();} pack q; class B:A{} class C:B{} class D:C{} class E:A{}"
-            + " class F:D{}");
+        CallCourt x = Bench.court("pack p; class A{near int m(); near static int s();} pack q; class B:A{} class C:B{}"
+            + " class D:C{} class E:A{} class F:D{}");
         // the caller is C, the receiver is F: A, B above; C itself; D, F under; E is no kin
         int[] mayHave = {1, 1, 1, 1, 0, 1};
         for (int named = 0; named < 6; named++) {
@@ -322,8 +329,8 @@ final class BoundsOfLookup {
 
     @Sentence(promise = 17, says = "and the receiver's type is under the caller.")
     static void theReceiverIsUnderTheCaller() {
-        CallCourt x = Bench.court("pack p; class A{near int m(); near static int s();} pack q; class B:A{} class C:B{} class D:C{} class E:A{}"
-            + " class F:D{} class G{}");
+        CallCourt x = Bench.court("pack p; class A{near int m(); near static int s();} pack q; class B:A{} class C:B{}"
+            + " class D:C{} class E:A{} class F:D{} class G{}");
         int[] mayHave = {0, 0, 1, 1, 0, 1, 0};
         for (int receiver = 0; receiver < 7; receiver++) {
             may(x, 2, 0, 0, receiver, mayHave[receiver]);

@@ -27,7 +27,8 @@ final class BoundsOfTheLastBrace {
         Texts.wrong(7, "class B<V under B>{int m(int,V); int m(int,B);@}");
         Texts.right("class A{} class B<V,W under A>{int m(V); int m(W); int m(B); int m(int);}", 2);
         // unlike NAMES, numbers of kinds, kinds, order of kinds
-        Texts.right("class A{int m(); int n(); int m(int); int m(A); int m(int,int); int m(int,A); int m(A,int); int m(A,A);}", 1);
+        Texts.right("class A{int m(); int n(); int m(int); int m(A); int m(int,int); int m(int,A); int m(A,int); int"
+            + " m(A,A);}", 1);
         // of two types
         Texts.right("class A{int m();} class B{int m();} class C:A{int m();}", 3);
     }
@@ -61,8 +62,8 @@ final class BoundsOfTheLastBrace {
 
     // ---- 9
 
-    @Sentence(promise = 5, says = "9: one of its members and one above: it OVERRIDES it, but that both may be static, or one"
-        + " alone,")
+    @Sentence(promise = 5, says = "9: one of its members and one above: it OVERRIDES it, but that both may be static,"
+        + " or one alone,")
     static void onlyWhatOverrides() {
         // each would be wrong if it were an override: unlike NAME, kinds, own, out of reach
         Texts.right("class A{open int m(); open int k(int);} class B:A{none n(); none k();}", 2);
@@ -80,6 +81,11 @@ final class BoundsOfTheLastBrace {
         Texts.wrong(9, "face F{int m();} class A:F{} class B:A{open none m();@}");
         Texts.wrong(9, "pack p; class A{int m();} class B:A{open int m();} pack q; class C:B{int m();@}");
         Texts.wrong(9, "pack p; class A{int m();} pack q; class B:A{} pack p; class C:B{none m();@}");
+        // by one between alone: C's result is alike to B's as C sees it, but not under A's
+        Texts.wrong(9, "pack p; class R{} class A{R m();} class B<W under R>:A{open W m();} pack q; class X{}"
+            + " class C:B<X>{open X m();@}");
+        Texts.right("pack p; class R{} class A{R m();} class B<W under R>:A{W m();} pack q; class X{}"
+            + " class C:B<X>{open X m();}", 5);
         // kinds as the type sees them
         Texts.wrong(9, "class A{} face F<V>{int m(V);} class B:F<A>{open none m(A);@}");
         Texts.right("class A{} face F<V>{int m(V);} class B:F<A>{open none m(B);}", 3);
@@ -102,7 +108,8 @@ final class BoundsOfTheLastBrace {
         for (int above = 0; above < 3; above++) {
             for (int below = 0; below < 3; below++) {
                 for (String form : new String[] {"", "static "}) {
-                    String text = "class A{" + accesses[above] + form + "int m();} class B:A{" + accesses[below] + form + "int m();";
+                    String text = "class A{" + accesses[above] + form + "int m();}"
+                        + " class B:A{" + accesses[below] + form + "int m();";
                     if (below < above) {
                         Texts.wrong(9, text + "@}");
                     } else {
@@ -127,7 +134,8 @@ final class BoundsOfTheLastBrace {
 
     @Sentence(promise = 5, says = "A result is NARROW enough for another one (both as the type sees them): alike;")
     static void narrowIfAlike() {
-        Texts.right("class A{open int m(); open none k(); open A j();} class B:A{open int m(); open none k(); open A j();}", 2);
+        Texts.right("class A{open int m(); open none k(); open A j();} class B:A{open int m(); open none k(); open A"
+            + " j();}", 2);
         Texts.right("face F<V>{V m();} class A<W>:F<W>{open W m();}", 2);
         Texts.right("face F<V>{V m();} class A:F<A>{open A m();}", 2);
         Texts.right("face F<V>{V m();} face G<X,Y>:F<Y>{Y m();}", 2);

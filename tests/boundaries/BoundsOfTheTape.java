@@ -1,4 +1,4 @@
-/** The constants, an object's calls, refusals, and promises 1 to 5 and 22 as far as they are not the texts' own rules. */
+/** The constants, an object's calls, refusals; promises 1 to 5 and 22 as far as they are not the texts' own rules. */
 final class BoundsOfTheTape {
     private static final int UNKNOWN = CallCourt.UNKNOWN, OUTSIDE = CallCourt.OUTSIDE;
     private static final int BLANKS = 0x20202020;
@@ -35,10 +35,12 @@ final class BoundsOfTheTape {
             for (int what = 0; what < 10; what++) {
                 state.append(' ').append(x.type(t, what));
             }
-            state.append(' ').append(x.above(t, 0)).append(' ').append(x.bridge(t, 0, 1)).append(' ').append(x.lookup(t, 0));
+            state.append(' ').append(x.above(t, 0)).append(' ').append(x.bridge(t, 0,
+                1)).append(' ').append(x.lookup(t, 0));
         }
         for (int m = 0; m < 3; m++) {
-            state.append(' ').append(x.member(m, 1)).append(' ').append(x.erased(m, 2)).append(' ').append(x.overrides(1, m));
+            state.append(' ').append(x.member(m, 1)).append(' ').append(x.erased(m,
+                2)).append(' ').append(x.overrides(1, m));
         }
         return state.toString();
     }
@@ -53,8 +55,8 @@ final class BoundsOfTheTape {
         }
     }
 
-    @Sentence(promise = 1, says = "An object is used for at most 512 calls after it has been made; what later calls answer is"
-        + " free.")
+    @Sentence(promise = 1, says = "An object is used for at most 512 calls after it has been made; what later calls"
+        + " answer is free.")
     static void the512thCallIsAnsweredToo() {
         CallCourt x = new CallCourt();
         for (int call = 1; call <= 508; call += 4) {
@@ -72,8 +74,8 @@ final class BoundsOfTheTape {
         Bench.due("rule as call 512", x.rule(0, 0, 0, 0, 0), 0);
     }
 
-    @Sentence(promise = 1, says = "REFUSALS, the first of these that fits: UNKNOWN (-11: there is no such type, member),"
-        + " OUTSIDE (-12: a number is not as told), NONE (-13: there is nothing such), FULL (-14).")
+    @Sentence(promise = 1, says = "REFUSALS, the first of these that fits: UNKNOWN (-11: there is no such type,"
+        + " member), OUTSIDE (-12: a number is not as told), NONE (-13: there is nothing such), FULL (-14).")
     static void theFirstRefusalThatFits() {
         CallCourt x = Bench.court(BRIDGED);
         Bench.due("type: UNKNOWN ahead of OUTSIDE", x.type(3, 10), UNKNOWN);
@@ -101,10 +103,13 @@ final class BoundsOfTheTape {
         Bench.due("rule", x.rule(0, 0, 0, 0, 1), 1);
         feedBlanks(x);
         String before = state(x);
-        int[] refused = {x.trim(-1), x.trim(21), x.type(3, 0), x.type(0, 10), x.above(0, 0), x.above(3, 0), x.under(0, 3),
+        int[] refused = {x.trim(-1), x.trim(21), x.type(3, 0), x.type(0, 10), x.above(0, 0), x.above(3, 0), x.under(0,
+            3),
             x.member(3, 0), x.member(0, 4), x.seen(0, 0, 3), x.seen(2, 0, 2), x.erased(0, 3), x.erased(0, 0),
-            x.overrides(0, 3), x.bridge(0, 0, 0), x.bridge(1, 0, 5), x.same(0, 3, true), x.lookup(0, 3), x.specific(0, 0, 0),
-            x.may(0, 0, 0, 3), x.rule(0, 0, 0, 0, 3), x.rule(4, 0, 0, 0, 0), x.rule(-1, 0, 0, 0, 0), x.rule(0, 3, 0, 0, 0),
+            x.overrides(0, 3), x.bridge(0, 0, 0), x.bridge(1, 0, 5), x.same(0, 3, true), x.lookup(0, 3), x.specific(0,
+                0, 0),
+            x.may(0, 0, 0, 3), x.rule(0, 0, 0, 0, 3), x.rule(4, 0, 0, 0, 0), x.rule(-1, 0, 0, 0, 0), x.rule(0, 3, 0, 0,
+                0),
             x.conflicts(3), x.conflicts(2), x.tally(0, 1), x.tally(2, 0), x.told(5)};
         for (int i = 0; i < refused.length; i++) {
             Bench.due("refusal " + i, refused[i] <= -11 && refused[i] >= -13 ? 1 : 0, 1);
@@ -157,7 +162,8 @@ final class BoundsOfTheTape {
 
     // ---- 2 feed
 
-    @Sentence(promise = 2, says = "Twenty bytes come behind THE TAPE, of each number the highest first: how many it has.")
+    @Sentence(promise = 2, says = "Twenty bytes come behind THE TAPE, of each number the highest first: how many it"
+        + " has.")
     static void twentyBytesTheHighestFirst() {
         for (int place = 0; place < 20; place++) {
             int[] numbers = {BLANKS, BLANKS, BLANKS, BLANKS, BLANKS};
@@ -238,7 +244,8 @@ final class BoundsOfTheTape {
 
     // ---- 4 compile
 
-    @Sentence(promise = 4, says = "THE TAPE (which is empty then) is a text, its types in place of those there: how many;")
+    @Sentence(promise = 4, says = "THE TAPE (which is empty then) is a text, its types in place of those there: how"
+        + " many;")
     static void compileReplaces() {
         CallCourt x = new CallCourt();
         Bench.due("an empty tape", x.compile(), 0);
@@ -262,12 +269,13 @@ final class BoundsOfTheTape {
     @Sentence(promise = 4, says = "its types in place of those there")
     static void nothingIsLeftOfOlderTexts() {
         String[] texts = {
-            "pack p; pack q; face F<V,W>{V m(V,W); static int s();} class A{open A k(); own int z();} loader 1; class B:A,F<A,B>"
-                + "{open B k(); open A m(A,B);} abstract class C:B{open abstract int j();}",
+            "pack p; pack q; face F<V,W>{V m(V,W); static int s();} class A{open A k(); own int z();} loader 1;"
+                + " class B:A,F<A,B>{open B k(); open A m(A,B);} abstract class C:B{open abstract int j();}",
             "class A{} class B{} class C{} class D{}",
             "pack p; class A{} face B{int m(int,int);}",
             "face A{} face B:A{} face C:A{} class D:B,C,A{} class E:D{}",
-            "class P{} face F<V under P>{none m(V);} face G<V under P>:F<V>{} class D<X>:G<X>,F<X>{open none m(X);} class E:D<P>{}",
+            "class P{} face F<V under P>{none m(V);} face G<V under P>:F<V>{} class D<X>:G<X>,F<X>{open none m(X);}"
+                + " class E:D<P>{}",
             "face F{lent int m();} face G{lent int m();} class C:F,G{int k();}",
             "class A{int m(); int k();} class B of A:A{int m();} class C:B{static none j(); int k();}",
             "class A{open A m();} class B:A{open B m();} class C:B{open C m();}",
@@ -304,7 +312,8 @@ final class BoundsOfTheTape {
         CallCourt x = Bench.court(BRIDGED);
         x.rule(0, 0, 0, 0, 1);
         String before = state(x).substring(4);
-        String[] texts = {"$", "class A{int m();int m();}", "pack q; pack r; class C{open C m();} class D:C{open D m();} $",
+        String[] texts = {"$", "class A{int m();int m();}", "pack q; pack r; class C{open C m();}"
+            + " class D:C{open D m();} $",
             "loader 2; face F<V>{V m(V);} class C:F<C>{open C m(C);} class D:C{none k();} class E:D{"};
         int[] places = {0, texts[1].length() - 1, texts[2].length() - 1, texts[3].length()};
         int[] faults = {1, 7, 1, 2};

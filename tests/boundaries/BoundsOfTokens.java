@@ -1,6 +1,7 @@
 /** What a text is made of: tokens, items, types, members. All of it is what compile() takes (promise 4). */
 final class BoundsOfTokens {
-    private static final String[] WORDS = {"pack", "loader", "class", "face", "of", "under", "open", "near", "own", "static",
+    private static final String[] WORDS = {"pack", "loader", "class", "face", "of", "under", "open", "near", "own",
+        "static",
         "abstract", "lent", "int", "none"};
     private static final String SIGNS = ";,:{}()<>";
 
@@ -24,7 +25,8 @@ final class BoundsOfTokens {
     @Sentence(promise = 4, says = "TOKENS, as long as can be, blanks (32, 10) between or not:")
     static void blanksBetweenOrNot() {
         Texts.right("class A<V,W under A>{open static int m(V,W);}pack p;loader 1;class B:A<B,B>{}", 2);
-        Texts.right(" \n class \n A \n < \n V \n > \n { \n own \n int \n m \n ( \n V \n , \n int \n ) \n ; \n } \n ", 1);
+        Texts.right(" \n class \n A \n < \n V \n > \n { \n own \n int \n m \n ( \n V \n , \n int \n ) \n ; \n } \n ",
+            1);
         Texts.right("class\nA{}class\nB{}", 2);
         // as long as can be: one NAME, or one that is too long
         Texts.wrong(2, "@packp;");
@@ -94,8 +96,8 @@ final class BoundsOfTokens {
         }
     }
 
-    @Sentence(promise = 4, says = "WORDS are pack loader class face of under open near own static abstract lent int none; other"
-        + " rows of that kind are NAMES.")
+    @Sentence(promise = 4, says = "WORDS are pack loader class face of under open near own static abstract lent int"
+        + " none; other rows of that kind are NAMES.")
     static void wordsAreNoNames() {
         for (String word : WORDS) {
             Texts.wrong(2, "pack @" + word + ";");
@@ -138,15 +140,16 @@ final class BoundsOfTokens {
         Texts.wrong(2, "loader @p;");
         Texts.wrong(2, "loader 1 @1;");
         Texts.wrong(2, "loader 1 @class A{}");
-        for (String word : new String[] {"of", "under", "open", "near", "own", "static", "lent", "int", "none", "A", "1", "{"}) {
+        for (String word : new String[] {"of", "under", "open", "near", "own", "static", "lent", "int", "none", "A",
+            "1", "{"}) {
             Texts.wrong(2, "@" + word);
             Texts.wrong(2, "class A{} @" + word);
         }
         Texts.wrong(2, "class A{@pack p;}");
     }
 
-    @Sentence(promise = 4, says = "type: abstract (or not) class NAME VARS of NAME : REFS { members }, or face NAME VARS :"
-        + " REFS { members }; VARS, of NAME, and : REFS may each lack.")
+    @Sentence(promise = 4, says = "type: abstract (or not) class NAME VARS of NAME : REFS { members }, or face NAME"
+        + " VARS : REFS { members }; VARS, of NAME, and : REFS may each lack.")
     static void headsOfTypes() {
         for (int lacking = 0; lacking < 8; lacking++) {
             String vars = (lacking & 1) != 0 ? "" : "<V>";
@@ -250,8 +253,8 @@ final class BoundsOfTokens {
 
     // ---- members
 
-    @Sentence(promise = 4, says = "member: access (open, near, own, or none), form (static, abstract, lent, or none), result,"
-        + " NAME ( kinds ) ;")
+    @Sentence(promise = 4, says = "member: access (open, near, own, or none), form (static, abstract, lent, or none),"
+        + " result, NAME ( kinds ) ;")
     static void accessAndFormMayLack() {
         for (String access : new String[] {"", "open ", "near ", "own "}) {
             Texts.right("class A{" + access + "int m();}", 1);

@@ -17,8 +17,8 @@ final class BoundsOfTypes {
 
     @Sentence(promise = 6, says = "pack and loader hold for the types behind them (no package and loader 0 at first);")
     static void packAndLoaderHold() {
-        CallCourt x = Bench.court("class A{} face B{} pack p; class C{} class D{} loader 2; class E{} pack q; class F{} loader 0;"
-            + " class G{} pack p; loader 1;");
+        CallCourt x = Bench.court("class A{} face B{} pack p; class C{} class D{} loader 2; class E{} pack q; class F{}"
+            + " loader 0; class G{} pack p; loader 1;");
         types(x, 0, 0, 0, 1, 1, 1, 2, 2);
         types(x, 1, 0, 0, 0, 0, 2, 2, 0);
         Bench.compile(x, "class A{}");
@@ -26,9 +26,11 @@ final class BoundsOfTypes {
         types(x, 1, 0);
     }
 
-    @Sentence(promise = 6, says = "Types are numbered from 0 on, members from 0 on (through all types), as they are told.")
+    @Sentence(promise = 6, says = "Types are numbered from 0 on, members from 0 on (through all types), as they are"
+        + " told.")
     static void numbersFrom0On() {
-        CallCourt x = Bench.court("face A{int m(); int k();} class B{} class C{none m();} abstract class D{} class E{int m(int);}");
+        CallCourt x = Bench.court("face A{int m(); int k();} class B{} class C{none m();} abstract class D{}"
+            + " class E{int m(int);}");
         types(x, 2, 2, 0, 0, 1, 0);
         int[] typeOf = {0, 0, 2, 4};
         for (int m = 0; m < 4; m++) {
@@ -42,31 +44,36 @@ final class BoundsOfTypes {
 
     @Sentence(promise = 6, says = "Of a type: 0 its package's number (0: no package; then as they come in the text),")
     static void packageNumbers() {
-        types(Bench.court("class A{} pack q; class B{} pack p; class C{} pack q; class D{} pack r; class E{}"), 0, 0, 1, 2, 1, 3);
+        types(Bench.court("class A{} pack q; class B{} pack p; class C{} pack q; class D{} pack r; class E{}"), 0, 0,
+            1, 2, 1, 3);
         types(Bench.court("pack a; class A{}"), 0, 1);
         types(Bench.court("pack p; class A{} loader 1; class B{} pack P; class C{} pack pp; class D{}"), 0, 1, 1, 2, 3);
     }
 
     @Sentence(promise = 6, says = "1 its loader,")
     static void loaders() {
-        types(Bench.court("class A{} loader 2; class B{} loader 1; class C{} loader 0; class D{} loader 1; face E{}"), 1, 0, 2, 1, 0,
+        types(Bench.court("class A{} loader 2; class B{} loader 1; class C{} loader 0; class D{} loader 1; face E{}"),
+            1, 0, 2, 1, 0,
             1);
     }
 
     @Sentence(promise = 6, says = "2 what it is (0 a class, 1 an abstract one, 2 a face),")
     static void whatItIs() {
-        types(Bench.court("face A{} abstract class B{} class C{} class D:B{} abstract class E:C{} face F:A{}"), 2, 2, 1, 0, 0, 1, 2);
+        types(Bench.court("face A{} abstract class B{} class C{} class D:B{} abstract class E:C{} face F:A{}"), 2, 2,
+            1, 0, 0, 1, 2);
     }
 
     @Sentence(promise = 6, says = "3 the class above (NONE),")
     static void theClassAbove() {
-        types(Bench.court("class A{} face F{} class B:A,F{} class C:B{} class D:F{} face G:F{} abstract class E:A{}"), 3, NONE, NONE, 0,
+        types(Bench.court("class A{} face F{} class B:A,F{} class C:B{} class D:F{} face G:F{} abstract class E:A{}"),
+            3, NONE, NONE, 0,
             2, NONE, NONE, 0);
     }
 
     @Sentence(promise = 6, says = "4 its nest's type,")
     static void theNest() {
-        types(Bench.court("class A{} class B of A{} class C:B{} class D of C{} face F{} class E of F{}"), 4, 0, 0, 2, 2, 4, 4);
+        types(Bench.court("class A{} class B of A{} class C:B{} class D of C{} face F{} class E of F{}"), 4, 0, 0, 2,
+            2, 4, 4);
     }
 
     @Sentence(promise = 6, says = "5 how many members,")
@@ -76,7 +83,8 @@ final class BoundsOfTypes {
 
     @Sentence(promise = 6, says = "6 BRIDGES,")
     static void howManyBridges() {
-        types(Bench.court("class A{open A m(); open A k();} class B:A{open B m();} class C:B{open C m(); open C k();} class D:C{}"), 6,
+        types(Bench.court("class A{open A m(); open A k();} class B:A{open B m();} class C:B{open C m(); open C k();}"
+            + " class D:C{}"), 6,
             0, 1, 3, 0);
     }
 
@@ -219,19 +227,22 @@ final class BoundsOfTypes {
 
     @Sentence(promise = 9, says = "In a face what has no access is open;")
     static void openInAFace() {
-        members(Bench.court("face F{int a(); static int b(); lent int c(); abstract int d(); open int e();} class A{int a();}"), 1, 3,
+        members(Bench.court("face F{int a(); static int b(); lent int c(); abstract int d(); open int e();}"
+            + " class A{int a();}"), 1, 3,
             3, 3, 3, 3, 1);
     }
 
     @Sentence(promise = 9, says = "what has no form is abstract.")
     static void abstractInAFace() {
-        members(Bench.court("face F{int a(); open int b(); lent int c();} class A{int a();} abstract class B{int a();}"), 2, 2, 2, 3, 0,
+        members(Bench.court("face F{int a(); open int b(); lent int c();} class A{int a();}"
+            + " abstract class B{int a();}"), 2, 2, 2, 3, 0,
             0);
     }
 
     @Sentence(promise = 9, says = "A face's members are open or own.")
     static void openOrOwnInAFace() {
-        members(Bench.court("face F{int a(); own static int b(); own lent int c(); open static int d();}"), 1, 3, 0, 0, 3);
+        members(Bench.court("face F{int a(); own static int b(); own lent int c(); open static int d();}"), 1, 3, 0, 0,
+            3);
         Texts.wrong(5, "face F{@near lent int m();}");
     }
 
@@ -242,14 +253,15 @@ final class BoundsOfTypes {
 
     @Sentence(promise = 9, says = "1 its access (0 own, 1 none, 2 near, 3 open),")
     static void theMembersAccess() {
-        members(Bench.court("class A{own int a(); int b(); near int c(); open int d(); own static int e(); static int f();}"), 1, 0, 1,
+        members(Bench.court("class A{own int a(); int b(); near int c(); open int d(); own static int e(); static int"
+            + " f();}"), 1, 0, 1,
             2, 3, 0, 1);
     }
 
     @Sentence(promise = 9, says = "2 its form (0 a body, 1 static, 2 abstract, 3 lent),")
     static void theMembersForm() {
-        members(Bench.court("abstract class A{int a(); static int b(); abstract int c();} face F{lent int d(); static int e();"
-            + " abstract int f();}"), 2, 0, 1, 2, 3, 1, 2);
+        members(Bench.court("abstract class A{int a(); static int b(); abstract int c();}"
+            + " face F{lent int d(); static int e(); abstract int f();}"), 2, 0, 1, 2, 3, 1, 2);
     }
 
     @Sentence(promise = 9, says = "3 how many kinds.")
@@ -285,10 +297,11 @@ final class BoundsOfTypes {
         Bench.due("seen(" + t + ", " + m + ", 2)", x.seen(t, m, 2), result);
     }
 
-    @Sentence(promise = 10, says = "A NAME of a VAR stands for it in its type, behind its VARS, ahead of a type of that NAME;")
+    @Sentence(promise = 10, says = "A NAME of a VAR stands for it in its type, behind its VARS, ahead of a type of that"
+        + " NAME;")
     static void aVarAheadOfAType() {
-        CallCourt x = Bench.court("class V{} face F<P>{P m(P);} class A<V>:F<V>{open V m(V);} class B{V m(V);} class C<C>{C m(C);}"
-            + " class D<W under V,V>{none m(W,V);}");
+        CallCourt x = Bench.court("class V{} face F<P>{P m(P);} class A<V>:F<V>{open V m(V);} class B{V m(V);}"
+            + " class C<C>{C m(C);} class D<W under V,V>{none m(W,V);}");
         seen(x, 2, 0, 100, NONE, 100);
         seen(x, 2, 1, 100, NONE, 100);
         // not in another type
@@ -300,7 +313,8 @@ final class BoundsOfTypes {
         Bench.due("erased(4, 0)", x.erased(4, 0), 0);
     }
 
-    @Sentence(promise = 10, says = "A type's arguments AS SEEN from one under it: a type sees its own VARS as they are;")
+    @Sentence(promise = 10, says = "A type's arguments AS SEEN from one under it: a type sees its own VARS as they"
+        + " are;")
     static void itsOwnVars() {
         CallCourt x = Bench.court("class A{} face F<V,W under A>{W m(V,W); V k(W,V);}");
         seen(x, 1, 0, 100, 101, 101);
@@ -309,7 +323,8 @@ final class BoundsOfTypes {
 
     @Sentence(promise = 10, says = "those of a REF as told there;")
     static void argumentsAsToldThere() {
-        CallCourt x = Bench.court("class A{} face F<V,W>{W m(V,W);} class B:F<A,B>{} class C<X,Y>:F<Y,X>{} class D<X>:F<X,X>{}");
+        CallCourt x = Bench.court("class A{} face F<V,W>{W m(V,W);} class B:F<A,B>{} class C<X,Y>:F<Y,X>{}"
+            + " class D<X>:F<X,X>{}");
         seen(x, 2, 0, 0, 2, 2);
         seen(x, 3, 0, 101, 100, 100);
         seen(x, 4, 0, 100, 100, 100);
@@ -317,8 +332,8 @@ final class BoundsOfTypes {
 
     @Sentence(promise = 10, says = "those further above as the REF sees them, with the REF's VARS replaced.")
     static void argumentsFurtherAbove() {
-        CallCourt x = Bench.court("class A{} face F<V,W>{W m(V,W);} face G<X,Y>:F<Y,X>{} face H<P,Q>:G<Q,A>{} class I<Z>:H<A,Z>{}"
-            + " class J:I<J>{} class K<U>:J{}");
+        CallCourt x = Bench.court("class A{} face F<V,W>{W m(V,W);} face G<X,Y>:F<Y,X>{} face H<P,Q>:G<Q,A>{}"
+            + " class I<Z>:H<A,Z>{} class J:I<J>{} class K<U>:J{}");
         seen(x, 2, 0, 101, 100, 100);
         seen(x, 3, 0, 0, 101, 101);
         seen(x, 4, 0, 0, 100, 100);
@@ -334,8 +349,8 @@ final class BoundsOfTypes {
         seen(x, 1, 1, 100, 0, -2);
     }
 
-    @Sentence(promise = 10, says = "KINDS are told as: -3 int, -2 none, -1 ANY, 0 .. 23 a type, 100 and k: VAR k of the type"
-        + " that sees.")
+    @Sentence(promise = 10, says = "KINDS are told as: -3 int, -2 none, -1 ANY, 0 .. 23 a type, 100 and k: VAR k of the"
+        + " type that sees.")
     static void howKindsAreTold() {
         CallCourt x = Bench.court(Texts.types(23) + "class Z<V,W>{none m(int,T0); Z k(V,W); T22 j(Z,T1);}");
         seen(x, 23, 0, -3, 0, -2);

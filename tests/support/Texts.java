@@ -62,7 +62,8 @@ final class Texts {
     static String fullLadder() {
         StringBuilder text = new StringBuilder();
         for (int t = 0; t < 15; t++) {
-            text.append("class T").append(t).append(t == 0 ? "" : ":T" + (t - 1)).append('{').append(membersOf(8)).append('}');
+            text.append("class T").append(t).append(t == 0 ? "" : ":T" + (t - 1));
+            text.append('{').append(membersOf(8)).append('}');
         }
         return text.toString();
     }
