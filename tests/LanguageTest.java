@@ -5,6 +5,8 @@ import java.lang.reflect.Method;
 import java.lang.reflect.Modifier;
 import java.nio.file.Files;
 import java.nio.file.Path;
+import java.util.ArrayList;
+import java.util.List;
 import java.util.Set;
 import java.util.TreeSet;
 import java.util.regex.Matcher;
@@ -22,6 +24,9 @@ public final class LanguageTest {
         face();
         inside();
         source(Files.readString(SOURCE));
+        if (Document.isThere()) {
+            faceAsWritten(Document.face(), Files.readAllLines(SOURCE));
+        }
         Bench.end();
     }
 
@@ -62,6 +67,20 @@ public final class LanguageTest {
         Bench.due("OUTSIDE", CallCourt.OUTSIDE, -12);
         Bench.due("NONE", CallCourt.NONE, -13);
         Bench.due("FULL", CallCourt.FULL, -14);
+    }
+
+    /** The document's lines stand in the source in their order, methods with { for ; and no other line is public. */
+    private static void faceAsWritten(List<String> face, List<String> source) {
+        List<String> due = new ArrayList<>();
+        for (String line : face) {
+            if (line.contains("public ")) {
+                due.add(line.replace(");", ") {"));
+            }
+        }
+        List<String> open = new ArrayList<>(source);
+        open.removeIf(line -> !line.matches("\\s*public .*"));
+        holds("the document's face has its 24 lines: " + due.size(), due.size() == 24);
+        holds("the public lines of the source are the document's: " + open, open.equals(due));
     }
 
     private static void inside() {

@@ -35,6 +35,13 @@ final class Document {
         }
     }
 
+    /** The lines of the public face, from its class line to its last }. */
+    static List<String> face() throws IOException {
+        String text = Files.readString(PLACE);
+        int start = text.indexOf("```java\n", text.indexOf("## The public face")) + "```java\n".length();
+        return List.of(text.substring(start, text.indexOf("```", start)).split("\n"));
+    }
+
     /** What is no sentence needs no test. */
     private void pass(int part, String pattern) {
         Matcher matcher = Pattern.compile(pattern).matcher(parts[part]);
